@@ -44,6 +44,7 @@ public final class MurmurHall {
     private int marks;
     private boolean hasLived;
     private final int[] livedRow = new int[5];
+    private final int[] sumsNow = new int[CELLS];
     private final Trays trays = new Trays();
     private final Tokens tokens = new Tokens();
     private final HallReader hallReader = new HallReader(tokens);
@@ -374,8 +375,9 @@ public final class MurmurHall {
         if (!hall.hasSlate(slate)) {
             return fail(WRONG);
         }
+        hall.writeSums(sumsNow);
         for (int beat = 0; beat <= LAST_BEAT; beat++) {
-            if (hall.sumAt(slate, beat) > 0) {
+            if (sumsNow[Hall.cellOf(slate, beat)] > 0) {
                 return pass(beat);
             }
         }
@@ -386,8 +388,9 @@ public final class MurmurHall {
         if (!hall.hasSlate(slate)) {
             return fail(WRONG);
         }
+        hall.writeSums(sumsNow);
         for (int beat = LAST_BEAT; beat >= 0; beat--) {
-            if (hall.sumAt(slate, beat) > 0) {
+            if (sumsNow[Hall.cellOf(slate, beat)] > 0) {
                 return pass(beat);
             }
         }
@@ -398,10 +401,11 @@ public final class MurmurHall {
         if (!hall.hasSlate(slate)) {
             return fail(WRONG);
         }
+        hall.writeSums(sumsNow);
         int best = NONE;
         int most = 0;
         for (int beat = 0; beat <= LAST_BEAT; beat++) {
-            int sum = hall.sumAt(slate, beat);
+            int sum = sumsNow[Hall.cellOf(slate, beat)];
             if (sum > most) {
                 most = sum;
                 best = beat;
@@ -425,12 +429,11 @@ public final class MurmurHall {
         if (!hall.kept) {
             return fail(NOTHING);
         }
+        hall.writeSums(sumsNow);
         int many = 0;
-        for (int slate = 0; slate < hall.slates; slate++) {
-            for (int beat = 0; beat <= LAST_BEAT; beat++) {
-                if (hall.sumAt(slate, beat) != hall.sums[Hall.cellOf(slate, beat)]) {
-                    many++;
-                }
+        for (int cell = 0; cell < CELLS; cell++) {
+            if (sumsNow[cell] != hall.sums[cell]) {
+                many++;
             }
         }
         return pass(many);
@@ -447,9 +450,10 @@ public final class MurmurHall {
         if (!trays.reaches(tray, 0, n)) {
             return fail(TOO_SHORT);
         }
+        hall.writeSums(sumsNow);
         int together = 0;
         for (int i = 0; i < n; i++) {
-            int sum = hall.sumAt(slate, beat + i);
+            int sum = sumsNow[Hall.cellOf(slate, beat + i)];
             trays.put(tray, i, sum);
             together += sum;
         }
@@ -865,7 +869,7 @@ public final class MurmurHall {
         }
 
         boolean hasCry(int caller, int cry) {
-            return hasCaller(caller) && cry >= 0 && cry < cries[caller];
+            return caller >= 0 && caller < callers && cry >= 0 && cry < cries[caller];
         }
 
         boolean hasCall(int call) {
@@ -1049,7 +1053,8 @@ public final class MurmurHall {
 
         // ---- what is heard
 
-        // BEAT first, so that cells in order are BEATS in order
+        // BEAT first, so that cells in order are BEATS in order; no CALL is HEARD behind BEAT 76 (AT 20, its third
+        // number, six WAYS of 9), so what is HEARD always has a cell
         static int cellOf(int slate, int beat) {
             return beat * MOST_SLATES + slate;
         }
@@ -1095,7 +1100,6 @@ public final class MurmurHall {
             return allOfCall(call, slate) > 0;
         }
 
-        // no CALL is HEARD behind BEAT 90 (20, 2 and six WAYS of 9 at most), so BEATS need not be asked one by one
         int totalOn(int slate) {
             int together = 0;
             for (int call = 0; call < calls; call++) {
@@ -1112,13 +1116,22 @@ public final class MurmurHall {
             return together;
         }
 
-        void keepSums() {
-            Arrays.fill(sums, 0);
-            for (int slate = 0; slate < slates; slate++) {
-                for (int beat = 0; beat <= LAST_BEAT; beat++) {
-                    sums[cellOf(slate, beat)] = sumAt(slate, beat);
+        /** All SUMS, CALL by CALL: most cells are empty, so to ask each of them would take long. */
+        void writeSums(int[] into) {
+            Arrays.fill(into, 0);
+            for (int call = 0; call < calls; call++) {
+                for (int slate = 0; slate < slates; slate++) {
+                    int distance = distanceToSlate(callerOf(call), slate);
+                    int begin = startOf(call) + beatsOf(distance);
+                    for (int i = 0; i < MOST_NUMBERS && distance < NO_WAY; i++) {
+                        into[cellOf(slate, begin + i)] += amount(kindOf(call), i, lossOf(distance));
+                    }
                 }
             }
+        }
+
+        void keepSums() {
+            writeSums(sums);
             kept = true;
         }
 
@@ -1145,7 +1158,7 @@ public final class MurmurHall {
         }
 
         /** How many of the 16 to the CALLS from one on leave a SUM of k or more; the depth is at most MOST_CALLS. */
-        long weightOfAtLeast(int slate, int beat, int k, int call) {
+        private long weightOfAtLeast(int slate, int beat, int k, int call) {
             if (k <= 0 || call >= calls) {
                 return k <= 0 ? sixteens(calls - call) : 0;
             }
@@ -1209,8 +1222,17 @@ public final class MurmurHall {
         static final int SIGN = 3;
         static final int UNKNOWN = 4;
 
-        // in the order of the words' numbers below, each with a blank behind it
-        static final String WORDS = "odds place way long loses slate at caller cry call say hush walk record any when heard calls loop end stop ";
+        // the bytes of each word as one number, in the order of the words' numbers below
+        static final long[] WORDS = {
+            // odds, place, way, long, loses
+            0x6f646473L, 0x706c616365L, 0x776179L, 0x6c6f6e67L, 0x6c6f736573L,
+            // slate, at, caller, cry, call
+            0x736c617465L, 0x6174L, 0x63616c6c6572L, 0x637279L, 0x63616c6cL,
+            // say, hush, walk, record, any
+            0x736179L, 0x68757368L, 0x77616c6bL, 0x7265636f7264L, 0x616e79L,
+            // when, heard, calls, loop, end, stop
+            0x7768656eL, 0x6865617264L, 0x63616c6c73L, 0x6c6f6f70L, 0x656e64L, 0x73746f70L,
+        };
         static final int ODDS = 0;
         static final int PLACE = 1;
         static final int WAY = 2;
@@ -1269,7 +1291,7 @@ public final class MurmurHall {
         }
 
         void advance() {
-            while (next < finish && isBlank(tape[next])) {
+            while (next < finish && (tape[next] == 10 || tape[next] == 32)) {
                 next++;
             }
             start = next;
@@ -1277,62 +1299,56 @@ public final class MurmurHall {
                 kind = FINISH;
                 return;
             }
-            byte sign = tape[next];
-            if (isLetter(sign)) {
+            value = tape[next];
+            kind = kindOf(value);
+            next++;
+            if (kind == LETTERS) {
                 readLetters();
-            } else if (isDigit(sign)) {
+                value = wordNumber();
+            } else if (kind == DIGITS) {
                 readDigits();
-            } else {
-                kind = isSign(sign) ? SIGN : UNKNOWN;
-                value = sign;
-                next++;
             }
+        }
+
+        private static int kindOf(int sign) {
+            if (sign >= 'a' && sign <= 'z') {
+                return LETTERS;
+            }
+            if (sign >= '0' && sign <= '9') {
+                return DIGITS;
+            }
+            return sign == ';' || sign == '<' || sign == '>' || sign == '=' ? SIGN : UNKNOWN;
         }
 
         private void readLetters() {
-            kind = LETTERS;
-            name = 0;
-            while (next < finish && isLetter(tape[next])) {
-                // only names of MOST_LETTERS and fewer are used, and those do not run over
-                name = name * 32 + (tape[next] - 'a' + 1);
+            // only of MOST_LETTERS and fewer is the name used, and those do not run over
+            name = tape[start];
+            while (next < finish && tape[next] >= 'a' && tape[next] <= 'z') {
+                name = name << 8 | tape[next];
                 next++;
             }
-            value = wordHere();
         }
 
-        private void readDigits() {
-            value = 0;
-            while (next < finish && isDigit(tape[next])) {
-                if (next - start < MOST_DIGITS) {
-                    value = value * 10 + (tape[next] - '0');
-                }
-                next++;
-            }
-            kind = next - start > MOST_DIGITS ? UNKNOWN : DIGITS;
-        }
-
-        private int wordHere() {
-            int word = 0;
-            int begin = 0;
-            for (int i = 0; i < WORDS.length(); i++) {
-                if (WORDS.charAt(i) == ' ') {
-                    if (i - begin == next - start && isSame(begin)) {
-                        return word;
-                    }
-                    word++;
-                    begin = i + 1;
+        private int wordNumber() {
+            for (int word = 0; word < WORDS.length && next - start <= MOST_LETTERS; word++) {
+                if (WORDS[word] == name) {
+                    return word;
                 }
             }
             return NONE;
         }
 
-        private boolean isSame(int begin) {
-            for (int i = 0; start + i < next; i++) {
-                if (WORDS.charAt(begin + i) != tape[start + i]) {
-                    return false;
+        private void readDigits() {
+            value = tape[start] - '0';
+            while (next < finish && tape[next] >= '0' && tape[next] <= '9') {
+                if (next - start < MOST_DIGITS) {
+                    value = value * 10 + (tape[next] - '0');
                 }
+                next++;
             }
-            return true;
+            if (next - start > MOST_DIGITS) {
+                kind = UNKNOWN;
+            }
         }
 
         /** The number of the word that stands here, or NONE. */
@@ -1375,22 +1391,6 @@ public final class MurmurHall {
         boolean compareNext() {
             advance();
             return kind == SIGN && value != ';' || refuse(2);
-        }
-
-        private static boolean isBlank(byte sign) {
-            return sign == 10 || sign == 32;
-        }
-
-        private static boolean isLetter(byte sign) {
-            return sign >= 'a' && sign <= 'z';
-        }
-
-        private static boolean isDigit(byte sign) {
-            return sign >= '0' && sign <= '9';
-        }
-
-        private static boolean isSign(byte sign) {
-            return sign == ';' || sign == '<' || sign == '>' || sign == '=';
         }
     }
 
@@ -1500,7 +1500,7 @@ public final class MurmurHall {
                 return false;
             }
             long name = tokens.name;
-            int place = placeBehindAt(hall);
+            int place = tokens.wordNext(Tokens.AT) ? placeNext(hall) : NONE;
             if (place == NONE) {
                 return false;
             }
@@ -1516,7 +1516,7 @@ public final class MurmurHall {
                 return false;
             }
             long name = tokens.name;
-            int place = placeBehindAt(hall);
+            int place = tokens.wordNext(Tokens.AT) ? placeNext(hall) : NONE;
             if (place == NONE) {
                 return false;
             }
@@ -1591,10 +1591,6 @@ public final class MurmurHall {
             return place;
         }
 
-        private int placeBehindAt(Hall hall) {
-            return tokens.wordNext(Tokens.AT) ? placeNext(hall) : NONE;
-        }
-
         private int callerNext(Hall hall) {
             if (!tokens.nameNext()) {
                 return NONE;
@@ -1628,8 +1624,9 @@ public final class MurmurHall {
                     steps.there = true;
                     return depth == 0 || tokens.refuse(2);
                 }
-                boolean read = tokens.word() == Tokens.END ? readEnd(steps) : readStep(steps, hall);
-                if (!read) {
+                boolean ends = tokens.word() == Tokens.END;
+                boolean read = ends ? readEnd(steps) : beginStep(steps) && readRest(steps, hall);
+                if (!read || !tokens.closeNext()) {
                     return false;
                 }
             }
@@ -1646,10 +1643,10 @@ public final class MurmurHall {
             steps.link[row] = open[depth];
             steps.link[open[depth]] = row;
             steps.rows++;
-            return tokens.closeNext();
+            return true;
         }
 
-        private boolean readStep(Steps steps, Hall hall) {
+        private boolean beginStep(Steps steps) {
             int word = tokens.word();
             boolean holdsOthers = word == Tokens.WHEN || word == Tokens.LOOP;
             if (!holdsOthers && !isPlainStep(word)) {
@@ -1669,7 +1666,7 @@ public final class MurmurHall {
                 open[depth] = row;
                 depth++;
             }
-            return readRest(steps, row, hall) && tokens.closeNext();
+            return true;
         }
 
         private static boolean isPlainStep(int word) {
@@ -1686,12 +1683,15 @@ public final class MurmurHall {
             }
         }
 
-        private boolean readRest(Steps steps, int row, Hall hall) {
-            switch (steps.word[row]) {
+        /** What stands between the word of the STEP begun latest and its end. */
+        private boolean readRest(Steps steps, Hall hall) {
+            int row = steps.rows - 1;
+            switch (tokens.word()) {
                 case Tokens.SAY:
-                    return readSay(steps, row, hall);
+                    return readCaller(steps, row, hall) && readWhere(steps, row, LAST_CRY)
+                        && readNumber(steps, row, 0, LAST_START);
                 case Tokens.WALK:
-                    return readCallerAndPlace(steps, row, hall);
+                    return readCaller(steps, row, hall) && readPlace(steps, row, hall);
                 case Tokens.WHEN:
                     return readTest(steps, row, hall);
                 case Tokens.LOOP:
@@ -1701,53 +1701,31 @@ public final class MurmurHall {
             }
         }
 
-        private boolean readSay(Steps steps, int row, Hall hall) {
-            if (!readCallerName(steps, row, hall) || !tokens.numberNext(0, LAST_CRY)) {
-                return false;
-            }
-            steps.where[row] = tokens.value;
-            return readNumber(steps, row, 0, LAST_START);
-        }
-
         private boolean readTest(Steps steps, int row, Hall hall) {
             tokens.advance();
             steps.test[row] = tokens.word();
             switch (steps.test[row]) {
                 case Tokens.HEARD:
-                    return readHeard(steps, row, hall);
+                    return readSlate(steps, row, hall) && readWhere(steps, row, LAST_BEAT)
+                        && readSign(steps, row) && readNumber(steps, row, 0, MOST_SUM);
                 case Tokens.AT:
-                    return readCallerAndPlace(steps, row, hall);
+                    return readCaller(steps, row, hall) && readPlace(steps, row, hall);
                 case Tokens.CALLS:
-                    return readComparison(steps, row, MOST_CALLS);
+                    return readSign(steps, row) && readNumber(steps, row, 0, MOST_CALLS);
                 default:
                     return tokens.refuse(2);
             }
         }
 
-        private boolean readHeard(Steps steps, int row, Hall hall) {
+        private boolean readSlate(Steps steps, int row, Hall hall) {
             if (!tokens.nameNext()) {
                 return false;
             }
             steps.who[row] = hall.slateNamed(tokens.name);
-            if (steps.who[row] == NONE) {
-                return tokens.refuse(3);
-            }
-            if (!tokens.numberNext(0, LAST_BEAT)) {
-                return false;
-            }
-            steps.where[row] = tokens.value;
-            return readComparison(steps, row, MOST_SUM);
+            return steps.who[row] != NONE || tokens.refuse(3);
         }
 
-        private boolean readCallerAndPlace(Steps steps, int row, Hall hall) {
-            if (!readCallerName(steps, row, hall) || !tokens.nameNext()) {
-                return false;
-            }
-            steps.where[row] = hall.placeNamed(tokens.name);
-            return steps.where[row] != NONE || tokens.refuse(3);
-        }
-
-        private boolean readCallerName(Steps steps, int row, Hall hall) {
+        private boolean readCaller(Steps steps, int row, Hall hall) {
             if (!tokens.nameNext()) {
                 return false;
             }
@@ -1755,12 +1733,28 @@ public final class MurmurHall {
             return steps.who[row] != NONE || tokens.refuse(3);
         }
 
-        private boolean readComparison(Steps steps, int row, int most) {
+        private boolean readPlace(Steps steps, int row, Hall hall) {
+            if (!tokens.nameNext()) {
+                return false;
+            }
+            steps.where[row] = hall.placeNamed(tokens.name);
+            return steps.where[row] != NONE || tokens.refuse(3);
+        }
+
+        private boolean readSign(Steps steps, int row) {
             if (!tokens.compareNext()) {
                 return false;
             }
             steps.sign[row] = tokens.value;
-            return readNumber(steps, row, 0, most);
+            return true;
+        }
+
+        private boolean readWhere(Steps steps, int row, int most) {
+            if (!tokens.numberNext(0, most)) {
+                return false;
+            }
+            steps.where[row] = tokens.value;
+            return true;
         }
 
         private boolean readNumber(Steps steps, int row, int least, int most) {
@@ -1935,6 +1929,8 @@ public final class MurmurHall {
         private int limit;
         private int sought;
         private int leftTogether;
+        /** The most that is HEARD of one CALL, on all SLATES together. */
+        private int greatest;
         private final int[] chosen = new int[MOST_ANSWER];
         private final int[] sorted = new int[MOST_ANSWER];
         /** What is RECORDED, less the CALLS that are chosen. */
@@ -1961,33 +1957,40 @@ public final class MurmurHall {
         private void listen(Hall hall) {
             System.arraycopy(hall.sums, 0, left, 0, CELLS);
             leftTogether = hall.totalKept();
+            greatest = 0;
             for (int kind = 0; kind < KINDS; kind++) {
                 breadth[kind] = 0;
+                int together = 0;
                 boolean there = hall.hasCry(kind / MOST_CRIES, kind % MOST_CRIES);
                 for (int slate = 0; slate < MOST_SLATES; slate++) {
                     opening[kind * MOST_SLATES + slate] = NONE;
                     if (there && slate < hall.slates) {
-                        listenOn(hall, kind, slate);
+                        together += listenOn(hall, kind, slate);
                     }
                 }
+                greatest = Math.max(greatest, together);
             }
         }
 
-        private void listenOn(Hall hall, int kind, int slate) {
+        /** Answers all that is HEARD of a kind on a SLATE together. */
+        private int listenOn(Hall hall, int kind, int slate) {
             int distance = hall.distanceToSlate(kind / MOST_CRIES, slate);
             if (distance >= Hall.NO_WAY) {
-                return;
+                return 0;
             }
+            int together = 0;
             int at = kind * MOST_SLATES + slate;
             beats[at] = Hall.beatsOf(distance);
             for (int i = MOST_NUMBERS - 1; i >= 0; i--) {
                 int amount = hall.amount(kind, i, Hall.lossOf(distance));
                 amounts[at * MOST_NUMBERS + i] = amount;
+                together += amount;
                 if (amount > 0) {
                     opening[at] = i;
                     breadth[kind]++;
                 }
             }
+            return together;
         }
 
         /**
@@ -2000,7 +2003,8 @@ public final class MurmurHall {
                 note(depth);
                 return;
             }
-            if (depth >= limit) {
+            // so many CALLS more can't bring all that is left; with none more, nothing can
+            if (depth >= limit || (limit - depth) * greatest < leftTogether) {
                 return;
             }
             int cell = firstLeft(from);
@@ -2172,6 +2176,7 @@ public final class MurmurHall {
 
     /** Finds the WAYS of which another LONG or LOSS would make the SUMS what is RECORDED. */
     private static final class Moves {
+        static final int MOST_PAIRS = MOST_CALLS * MOST_SLATES;
         int many;
         int sought;
         int soughtLong;
@@ -2180,8 +2185,11 @@ public final class MurmurHall {
         private int touched;
         private final int[] near = new int[MOST_PLACES * MOST_PLACES];
         private final int[] left = new int[CELLS];
-        private final int[] touchedCells = new int[MOST_CALLS * MOST_SLATES * MOST_NUMBERS];
-        private final int[] touchedBy = new int[MOST_CALLS * MOST_SLATES * MOST_NUMBERS];
+        private final int[] touchedCells = new int[MOST_PAIRS * MOST_NUMBERS];
+        private final int[] touchedBy = new int[MOST_PAIRS * MOST_NUMBERS];
+        /** Of each CALL and SLATE: the distance without the WAY, and by it, less its own weight. */
+        private final int[] without = new int[MOST_PAIRS];
+        private final int[] along = new int[MOST_PAIRS];
 
         /** Counts them all, and keeps the k-th. */
         void find(Hall hall, int k) {
@@ -2190,12 +2198,33 @@ public final class MurmurHall {
             leftTogether = hall.totalKept();
             for (int way = 0; way < hall.ways; way++) {
                 hall.measure(way, near);
-                for (int size = 1; size <= MOST_LONG; size++) {
-                    for (int loss = 0; loss <= MOST_LOSS; loss++) {
-                        boolean same = size == hall.longs[way] && loss == hall.losses[way];
-                        if (!same && explains(hall, way, size * Hall.BEAT_WEIGHT + loss)) {
-                            note(way, size, loss, k);
-                        }
+                measurePairs(hall, hall.ends[2 * way], hall.ends[2 * way + 1]);
+                findOf(hall, way, k);
+            }
+        }
+
+        private void measurePairs(Hall hall, int one, int other) {
+            for (int call = 0; call < hall.calls; call++) {
+                int from = hall.stands[hall.callerOf(call)] * MOST_PLACES;
+                for (int slate = 0; slate < hall.slates; slate++) {
+                    int to = hall.hangs[slate];
+                    int there = near[from + one] + near[other * MOST_PLACES + to];
+                    int back = near[from + other] + near[one * MOST_PLACES + to];
+                    without[call * MOST_SLATES + slate] = near[from + to];
+                    along[call * MOST_SLATES + slate] = Math.min(there, back);
+                }
+            }
+        }
+
+        private void findOf(Hall hall, int way, int k) {
+            // a WAY that nothing comes by leaves all SUMS as they are without it, so these are asked once
+            boolean explainedWithout = explains(hall, Hall.NO_WAY);
+            for (int size = 1; size <= MOST_LONG; size++) {
+                for (int loss = 0; loss <= MOST_LOSS; loss++) {
+                    boolean same = size == hall.longs[way] && loss == hall.losses[way];
+                    int weight = size * Hall.BEAT_WEIGHT + loss;
+                    if (!same && (isUsed(hall, weight) ? explains(hall, weight) : explainedWithout)) {
+                        note(way, size, loss, k);
                     }
                 }
             }
@@ -2210,28 +2239,31 @@ public final class MurmurHall {
             many++;
         }
 
-        private boolean explains(Hall hall, int way, int weight) {
+        private boolean isUsed(Hall hall, int weight) {
+            for (int call = 0; call < hall.calls; call++) {
+                for (int slate = 0; slate < hall.slates; slate++) {
+                    int pair = call * MOST_SLATES + slate;
+                    if (along[pair] + weight < without[pair]) {
+                        return true;
+                    }
+                }
+            }
+            return false;
+        }
+
+        private boolean explains(Hall hall, int weight) {
             touched = 0;
             boolean fitting = true;
             for (int call = 0; fitting && call < hall.calls; call++) {
                 for (int slate = 0; fitting && slate < hall.slates; slate++) {
-                    int place = hall.stands[hall.callerOf(call)];
-                    int distance = distanceBy(hall, way, weight, place, hall.hangs[slate]);
+                    int pair = call * MOST_SLATES + slate;
+                    int distance = Math.min(without[pair], along[pair] + weight);
                     fitting = distance >= Hall.NO_WAY || takes(hall, call, slate, distance);
                 }
             }
             boolean whole = fitting && leftTogether == 0;
             giveBack();
             return whole;
-        }
-
-        /** The distance, if the WAY that was left out of the distances had such a weight. */
-        private int distanceBy(Hall hall, int way, int weight, int place, int other) {
-            int one = hall.ends[2 * way];
-            int end = hall.ends[2 * way + 1];
-            int there = near[place * MOST_PLACES + one] + weight + near[end * MOST_PLACES + other];
-            int back = near[place * MOST_PLACES + end] + weight + near[one * MOST_PLACES + other];
-            return Math.min(near[place * MOST_PLACES + other], Math.min(there, back));
         }
 
         /** Takes what is HEARD of a CALL out of what is left; false if more is HEARD than was left. */
@@ -2270,6 +2302,9 @@ public final class MurmurHall {
         /** What is HEARD of a kind AT a PLACE from its first number above 0 on, as one number; 0: nothing. */
         private final int[] shapes = new int[KINDS * MOST_PLACES];
         private final int[] begins = new int[KINDS * MOST_PLACES];
+        private final int[] laterAtPlace = new int[MOST_PLACES];
+        private final int[] laterBySet = new int[1 << MOST_PLACES];
+        private final int[] unparted = new int[1 << MOST_PLACES];
 
         void listen(Hall hall) {
             for (int kind = 0; kind < KINDS; kind++) {
@@ -2307,16 +2342,19 @@ public final class MurmurHall {
         /** By how many BEATS later the second is said so that both are ALIKE by a set of PLACES. */
         int laterBy(int kind, int other, int set) {
             int later = ANY_BEATS;
-            for (int place = 0; place < MOST_PLACES; place++) {
-                int here = (set >> place & 1) == 0 ? ANY_BEATS : laterAt(kind, other, place);
-                if (here == APART || here != ANY_BEATS && later != ANY_BEATS && here != later) {
-                    return APART;
-                }
-                if (here != ANY_BEATS) {
-                    later = here;
+            for (int place = 0; place < MOST_PLACES && later != APART; place++) {
+                if ((set >> place & 1) != 0) {
+                    later = both(later, laterAt(kind, other, place));
                 }
             }
             return later;
+        }
+
+        private static int both(int later, int its) {
+            if (later == ANY_BEATS || later == its) {
+                return its;
+            }
+            return its == ANY_BEATS ? later : APART;
         }
 
         private int laterAt(int kind, int other, int place) {
@@ -2350,18 +2388,38 @@ public final class MurmurHall {
         /** The least of the smallest sets of PLACES by which all are parted, or NONE. */
         int leastSet(Hall hall) {
             int sets = 1 << hall.places;
-            // more PLACES never part less: what all of them do not part, none do
-            if (!partsAll(hall, sets - 1)) {
-                return NONE;
-            }
-            for (int size = 0; size < hall.places; size++) {
-                for (int set = 0; set < sets; set++) {
-                    if (Integer.bitCount(set) == size && partsAll(hall, set)) {
-                        return set;
+            Arrays.fill(unparted, 0);
+            for (int kind = 0; kind < KINDS; kind++) {
+                for (int other = kind + 1; other < KINDS && isThere(hall, kind); other++) {
+                    if (isThere(hall, other)) {
+                        markUnparted(kind, other, sets);
                     }
                 }
             }
-            return sets - 1;
+            int best = NONE;
+            for (int set = sets - 1; set >= 0; set--) {
+                boolean smaller = best == NONE || Integer.bitCount(set) <= Integer.bitCount(best);
+                if (unparted[set] == 0 && smaller) {
+                    best = set;
+                }
+            }
+            return best;
+        }
+
+        /** Marks the sets by which two are ALIKE, each set by what is known of it without its least PLACE. */
+        private void markUnparted(int kind, int other, int sets) {
+            laterBySet[0] = ANY_BEATS;
+            unparted[0] = 1;
+            for (int place = 0; 1 << place < sets; place++) {
+                laterAtPlace[place] = laterAt(kind, other, place);
+            }
+            for (int set = 1; set < sets; set++) {
+                int place = Integer.numberOfTrailingZeros(set);
+                laterBySet[set] = both(laterBySet[set & (set - 1)], laterAtPlace[place]);
+                if (laterBySet[set] != APART) {
+                    unparted[set] = 1;
+                }
+            }
         }
     }
 }
