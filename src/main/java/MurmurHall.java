@@ -2288,7 +2288,6 @@ public final class MurmurHall {
                 left[touchedCells[i]] += touchedBy[i];
                 leftTogether += touchedBy[i];
             }
-            touched = 0;
         }
     }
 

@@ -10,6 +10,7 @@ public final class PromisesTest {
         feed();
         hall();
         hallFaults();
+        cutTexts();
         hallLimits();
         words();
         mornings();
@@ -277,6 +278,26 @@ public final class PromisesTest {
         Check.hallFault("odds 1;odds;", 5, 7);
         Check.hallFault("place a;way a a long 99;", 5, 14);
         Check.hallFault(one + "cry p 1;call p 0 at 5;call p 0 at 05 x", 5, 56);
+    }
+
+    /** Promises 10, 11: what stands on the tape behind the text is no part of it. */
+    private static void cutTexts() {
+        MurmurHall m = Check.market();
+        Check.feed(m, "odds 123456;");
+        Check.refused(m, "a number cut", m.hall(6), 9);
+        Check.due("its fault", m.fault(0), 2);
+        Check.due("its place", m.fault(1), 6);
+        Check.feed(m, "odds 1234567;");
+        Check.refused(m, "a number cut", m.hall(9), 9);
+        Check.due("its fault", m.fault(0), 4);
+        Check.feed(m, "anything;");
+        Check.refused(m, "a word cut", m.mornings(3), 9);
+        Check.due("its fault", m.fault(0), 2);
+        Check.due("its place", m.fault(1), 3);
+        Check.feed(m, "place abcdefghijk");
+        Check.refused(m, "a name cut", m.hall(14), 9);
+        Check.due("its place", m.fault(1), 14);
+        Check.done(m, "the market stays", m.told(0), 4);
     }
 
     /** Promise 10: as many as may be, and FAULT 6 for one more. */
@@ -598,6 +619,11 @@ public final class PromisesTest {
         Check.done(m, "all", m.all(1), 19);
         m.say(0, 0, 7);
         Check.done(m, "the first of the loudest", m.loudest(0), 0);
+        MurmurHall one = new MurmurHall();
+        Check.hall(one, "place a;slate s at a;caller p at a;cry p 1;call p 0 at 0;");
+        Check.done(one, "first in beat 0", one.first(0), 0);
+        Check.done(one, "last in beat 0", one.last(0), 0);
+        Check.done(one, "loudest in beat 0", one.loudest(0), 0);
         m.hush(0);
         m.hush(0);
         m.hush(0);
@@ -771,6 +797,16 @@ public final class PromisesTest {
         Check.done(f, "explained by two", f.slips(2), 0);
         Check.done(f, "the first", f.slipsAt(2, 0), 3);
         Check.done(f, "the second", f.slipsAt(2, 1), 66);
+        f.scrawl(0, 3, 1);
+        f.scrawl(0, 4, 1);
+        f.scrawl(0, 5, 1);
+        Check.done(f, "three in a row by two", f.slips(2), 0);
+        Check.done(f, "the first", f.slipsAt(2, 0), 3);
+        Check.done(f, "the second", f.slipsAt(2, 1), 25);
+        f.scrawl(0, 5, 0);
+        Check.done(f, "two in a row", f.slips(2), 0);
+        Check.done(f, "the same cry in two beats comes first", f.slipsAt(2, 1), 4);
+        f.scrawl(0, 4, 0);
         f.scrawl(0, 3, 9);
         Check.done(f, "a slip that none can mend", f.slips(2), 1);
         Check.refused(f, "so the least set", f.slipsAt(2, 0), 6);
@@ -851,6 +887,11 @@ public final class PromisesTest {
         Check.hall(m, "place a;place b;way a b long 1 loses 4;slate s at b;caller p at a;cry p 9 2 9;cry p 9 9;cry p 9 4 9;");
         Check.refused(m, "a gap is no end", m.alike(0, 0, 0, 1), 6);
         Check.done(m, "a gap is a gap", m.alike(0, 0, 0, 2), 0);
+        // what is left of a cry may be its last number alone
+        Check.hall(m, "place a;place b;way a b long 1 loses 4;slate s at b;caller p at a;cry p 4 3 5;cry p 5;cry p 1 5;");
+        Check.done(m, "but the last is lost", m.alike(0, 0, 0, 1), 2);
+        Check.done(m, "but the last is lost", m.alike(0, 1, 0, 0), -2);
+        Check.done(m, "but the last is lost", m.alike(0, 0, 0, 2), 1);
     }
 
     /** Promises 48, 49, 50. */
@@ -1060,6 +1101,8 @@ public final class PromisesTest {
         Check.refused(m, "the last above", m.mean(9981, 20), 1);
         Check.refused(m, "far above", m.mean(Integer.MAX_VALUE, 20), 1);
         Check.done(m, "the last just so", m.mean(9980, 20));
+        Check.done(m, "the last alone", m.mean(9999, 1));
+        Check.refused(m, "the last and one more", m.mean(9999, 2), 1);
         long together = 0;
         for (int seed = 5; seed < 12; seed++) {
             m.mark();
