@@ -120,6 +120,10 @@ public final class GuessBoundariesTest {
             m.scrawl(place[0], place[1], was);
         }
         answers(m, 0, 1, 1, 1, 1);
+        m = recorded("place a;place b;slate r at b;slate s at b;slate t at b;slate u at a;caller p at a;cry p 1;call p 0 at 3;");
+        answers(m, 0, 1, 1, 1, 1);
+        m.scrawl(0, 3, 1);
+        answers(m, 0, 0, 0, 0, 0);
         // as much in all, but one less where the second number is heard and one more elsewhere
         m = recorded("place a;slate s at a;caller p at a;cry p 5 6;call p 0 at 3;");
         for (int beat : new int[] {0, 2, 5, 20, 90}) {
