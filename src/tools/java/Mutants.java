@@ -27,13 +27,15 @@ import javax.tools.SimpleJavaFileObject;
 import javax.tools.ToolProvider;
 
 /**
- * Breaks the class in one small way at a time and tells which of these no boundary test sees. Not run by .ci/run:
+ * Breaks the class in one small way at a time and tells which of these no boundary test sees, and which of these the
+ * runs by draws in narrow worlds see. Not run by .ci/run:
  * a row of its answer is a place to look, since some changes change no answer.
  * java -cp OUT Mutants DIR-OF-COMPILED-TESTS [HOW-MANY-OF-THEM [SEED]]
  */
 public final class Mutants {
     private static final Path SOURCE = Path.of("src/main/java/MurmurHall.java");
-    private static final int SECONDS = 20;
+    private static final int SECONDS = 100;
+    private static final int DRAWN_RUNS = 60;
     private static final String[][] SWAPS = {{" < ", " <= "}, {" <= ", " < "}, {" > ", " >= "}, {" >= ", " > "}, {" == ", " != "},
         {" != ", " == "}, {" && ", " || "}, {" || ", " && "}, {" + ", " - "}, {" - ", " + "}, {" * ", " + "}, {" / ", " * "}, {" % ", " / "},
         {"++", "--"}, {"--", "++"}, {" += ", " -= "}, {" -= ", " += "}, {"(!", "("}, {" !", " "}, {"true", "false"}, {"false", "true"},
@@ -53,16 +55,18 @@ public final class Mutants {
         ExecutorService pool = Executors.newFixedThreadPool(Runtime.getRuntime().availableProcessors());
         List<Future<String>> verdicts = new ArrayList<>();
         for (Mutant m : all.subList(0, many)) verdicts.add(pool.submit(() -> verdict(lines, m, tests)));
-        int[] counts = new int[4];
+        int[] counts = new int[5];
         for (int i = 0; i < many; i++) {
             String verdict = verdicts.get(i).get();
-            counts[List.of("seen", "too long", "no class", "UNSEEN").indexOf(verdict)]++;
+            counts[List.of("seen", "too long", "no class", "UNSEEN", "seen by draws").indexOf(verdict)]++;
             Mutant m = all.get(i);
-            if (verdict.equals("UNSEEN")) told.println((m.line + 1) + ": " + m.was.trim() + "   ==>   " + m.is.trim());
+            if (verdict.equals("UNSEEN") || verdict.equals("seen by draws")) {
+                told.println((m.line + 1) + ", " + verdict + ": " + m.was.trim() + "   ==>   " + m.is.trim());
+            }
         }
         pool.shutdownNow();
         told.println(many + " of " + all.size() + ": " + counts[0] + " seen, " + counts[1] + " took too long, " + counts[2] + " did not compile, "
-            + counts[3] + " unseen");
+            + counts[4] + " seen by draws alone, " + counts[3] + " unseen");
         System.exit(0);
     }
 
@@ -112,18 +116,33 @@ public final class Mutants {
         if (classes == null) return "no class";
         Map<String, byte[]> all = new HashMap<>(tests);
         all.putAll(classes);
-        boolean[] seen = new boolean[1];
-        Thread t = new Thread(() -> seen[0] = isSeen(new Loader(all)));
+        String[] seen = new String[1];
+        Thread t = new Thread(() -> seen[0] = seenBy(new Loader(all)));
         t.start();
         t.join(TimeUnit.SECONDS.toMillis(SECONDS));
         if (t.isAlive()) {
             t.stop();
             return "too long";
         }
-        return seen[0] ? "seen" : "UNSEEN";
+        return seen[0];
     }
 
-    private static boolean isSeen(Loader loader) {
+    private static String seenBy(Loader loader) {
+        if (isSeenByBoundaries(loader)) return "seen";
+        return isSeenByDraws(loader) ? "seen by draws" : "UNSEEN";
+    }
+
+    private static boolean isSeenByDraws(Loader loader) {
+        try {
+            Method agree = loader.loadClass("NarrowRunsTest").getDeclaredMethod("agree", int.class, long.class);
+            agree.setAccessible(true);
+            return !(Boolean) agree.invoke(null, DRAWN_RUNS, 1L);
+        } catch (Throwable e) {
+            return true;
+        }
+    }
+
+    private static boolean isSeenByBoundaries(Loader loader) {
         try {
             Class<?> boundaries = loader.loadClass("Boundaries");
             Method failures = boundaries.getDeclaredMethod("failures", Class.class);
