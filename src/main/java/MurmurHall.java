@@ -582,7 +582,7 @@ public final class MurmurHall {
         if (!hall.hasSlate(slate) || !isBeat(beat) || k < 0 || k > MOST_SUM) {
             return deny(WRONG);
         }
-        tell(hall.weightOfAtLeast(slate, beat, k, 0), Hall.sixteens(hall.calls));
+        tell(hall.weightOfAtLeast(slate, beat, k), Hall.sixteens(hall.calls));
         return grant();
     }
 
@@ -1157,18 +1157,20 @@ public final class MurmurHall {
             return 1L << (4 * many);
         }
 
-        /** How many of the 16 to the CALLS from one on leave a SUM of k or more; the depth is at most MOST_CALLS. */
-        private long weightOfAtLeast(int slate, int beat, int k, int call) {
-            if (k <= 0 || call >= calls) {
-                return k <= 0 ? sixteens(calls - call) : 0;
+        /** In how many of the cases (16 for each CALL, multiplied) the SUM is k or more. */
+        long weightOfAtLeast(int slate, int beat, int k) {
+            long together = 0;
+            for (int set = 0; set < 1 << calls; set++) {
+                int sum = 0;
+                long weight = 1;
+                for (int call = 0; call < calls; call++) {
+                    boolean isLost = (set >> call & 1) == 0;
+                    sum += isLost ? 0 : amountAt(call, slate, beat);
+                    weight *= isLost ? odds : MOST_ODDS - odds;
+                }
+                together += sum >= k ? weight : 0;
             }
-            int amount = amountAt(call, slate, beat);
-            long without = weightOfAtLeast(slate, beat, k, call + 1);
-            if (amount == 0) {
-                return MOST_ODDS * without;
-            }
-            long along = weightOfAtLeast(slate, beat, k - amount, call + 1);
-            return odds * without + (MOST_ODDS - odds) * along;
+            return together;
         }
     }
 
@@ -1951,7 +1953,7 @@ public final class MurmurHall {
             bestSize = NONE;
             limit = most;
             sought = soughtCall;
-            search(0, 0, NONE);
+            search(this, 0, 0, NONE);
         }
 
         private void listen(Hall hall) {
@@ -1998,23 +2000,23 @@ public final class MurmurHall {
          * HEARD there begins there on that SLATE: one BEAT for each kind. Kinds that explain one cell together are
          * chosen in order, so that each set is met once. The depth is at most MOST_ANSWER.
          */
-        private void search(int depth, int from, int behind) {
-            if (leftTogether == 0) {
-                note(depth);
+        private static void search(Guess guess, int depth, int from, int behind) {
+            if (guess.leftTogether == 0) {
+                guess.note(depth);
                 return;
             }
             // so many CALLS more can't bring all that is left; with none more, nothing can
-            if (depth >= limit || (limit - depth) * greatest < leftTogether) {
+            if (depth >= guess.limit || (guess.limit - depth) * guess.greatest < guess.leftTogether) {
                 return;
             }
-            int cell = firstLeft(from);
+            int cell = guess.firstLeft(from);
             for (int kind = cell == from ? behind + 1 : 0; kind < KINDS; kind++) {
-                int beat = beginFor(kind, cell);
-                if (beat != NONE && fits(kind, beat)) {
-                    chosen[depth] = kind * STARTS + beat;
-                    take(kind, beat, 1);
-                    search(depth + 1, cell, kind);
-                    take(kind, beat, -1);
+                int beat = guess.beginFor(kind, cell);
+                if (beat != NONE && guess.fits(kind, beat)) {
+                    guess.chosen[depth] = kind * STARTS + beat;
+                    guess.take(kind, beat, 1);
+                    search(guess, depth + 1, cell, kind);
+                    guess.take(kind, beat, -1);
                 }
             }
         }
